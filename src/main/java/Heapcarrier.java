@@ -549,8 +549,8 @@ public final class Heapcarrier {
     private static final class Plan {
         /** Far above any path, and far enough below the greatest long to add to. */
         private static final long UNREACHED = 1L << 60;
-        /** For a heap's price it has one unit more than the most that can be told. */
-        private static final int UNBOUNDED = MOST_AMOUNT + 1;
+        /** No hole ever wants more, so this is as good as no bound. */
+        private static final int UNBOUNDED = MOST_AMOUNT;
 
         final int[] stays;
         final int[] lacks;

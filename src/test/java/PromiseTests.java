@@ -39,6 +39,8 @@ final class PromiseTests {
         tests.put("promise 23, middle", PromiseTests::middle);
         tests.put("promise 24, about", PromiseTests::about);
         tests.put("promise 25, count", PromiseTests::count);
+        tests.put("five by five, the calls", PromiseTests::fiveByFive);
+        tests.put("five by five, the last way", PromiseTests::theLastWay);
         tests.put("what is told by hand stays", PromiseTests::handStays);
         tests.put("a call that throws changes nothing", PromiseTests::throwsChangeNothing);
     }
@@ -169,6 +171,13 @@ final class PromiseTests {
         c.is(RING, () -> x.measure(LINE, Integer.MAX_VALUE));
         c.is(LINE, () -> x.measure(LINE, 0));
         c.is(200, () -> x.count(3));
+        x.measure(RING, 60);
+        c.is(10, x::least);
+        x.measure(LINE, 0);
+        c.is(70, () -> x.unit(0, 0));
+        c.is(70, x::least);
+        x.measure(SQUARE, 1);
+        c.is(2000, x::least);
     }
 
     private static void own(Check c) {
@@ -330,6 +339,12 @@ final class PromiseTests {
         // A cap above both amounts does not count: 21 * 21 * 21 is 9261.
         Heapcarrier w = of(row(0, 20), row(1, 20, 2, 20, 3, 20));
         c.is(w.least(), w::leastAnew);
+        // 5 * 5 * 5 * 5 * 2 * 2 * 2 * 2 * 2 is 20000 too, all are plans, and the very last one is the best.
+        Heapcarrier u = of(row(0, 20, 0, 20, 0, 20), row(0, 20, 0, 20, 0, 20));
+        for (int way = 0; way < 9; way++) {
+            u.cap(way / 3, way % 3, way < 4 ? 4 : 1);
+        }
+        c.is(1000 * (120 - 2 * 21), u::leastAnew);
         Heapcarrier v = of(row(0, 1, 0, 1), row(1, 1, 2, 1));
         v.cap(0, 0, 20);
         v.cap(0, 1, 20);
@@ -491,6 +506,12 @@ final class PromiseTests {
         c.is(2000, of(row(0, 20), row(100, 20))::order);
         c.is(0, of(row(100, 7), row(100, 3, 100, 4))::order);
         c.is(100, of(row(50, 2), row(0, 1, 100, 1))::order);
+        c.is(98, of(row(0, 1, 98, 1), row(49, 2))::order);
+        // A ring that was told before does not count.
+        Heapcarrier y = of(row(0, 1), row(30, 1));
+        y.measure(RING, 20);
+        y.measure(LINE, 0);
+        c.is(30, y::order);
     }
 
     private static void orderOnARing(Check c) {
@@ -602,6 +623,12 @@ final class PromiseTests {
         Heapcarrier z = of(row(0, 2), row(5, 2));
         z.terms(0, 0);
         c.is(0, z::whyNot);
+        Heapcarrier w = of(row(0, 9), row(5, 2, 5, 2));
+        w.carry(0, 1, 3);
+        c.is(2, w::whyNot);
+        Heapcarrier v = of(row(0, 2, 0, 2), row(5, 9));
+        v.carry(1, 0, 3);
+        c.is(1, v::whyNot);
     }
 
     private static void handCost(Check c) {
@@ -690,6 +717,75 @@ final class PromiseTests {
         c.badArgument(() -> x.count(-1));
         c.badArgument(() -> x.count(7));
         c.badArgument(() -> x.count(Integer.MAX_VALUE));
+    }
+
+    /** Each heap k of k + 1 units has a hole beside it that wants as many. */
+    private static Heapcarrier fiveAndFive() {
+        return of(row(0, 1, 10, 2, 20, 3, 30, 4, 40, 5), row(1, 1, 11, 2, 21, 3, 31, 4, 41, 5));
+    }
+
+    private static void fiveByFive(Check c) {
+        Heapcarrier x = fiveAndFive();
+        c.is(15, x::least);
+        c.is(15, x::order);
+        c.is(15, x::proof);
+        c.badState(x::leastAnew);
+        c.is(5, x::take);
+        c.is(0, x::whyNot);
+        c.is(15, x::handCost);
+        c.is(30, x::middle);
+        for (int k = 0; k < 5; k++) {
+            int number = k;
+            c.is(k + 1, () -> x.carried(number, number));
+            c.is(0, () -> x.carried(number, (number + 1) % 5));
+            c.is(1000, () -> x.price(false, number));
+            c.is(-999, () -> x.price(true, number));
+            c.is(k + 1, () -> x.about(false, number, 2));
+            c.is(k + 1, () -> x.about(true, number, 2));
+            c.is(0, () -> x.left(false, number));
+            c.is(0, () -> x.left(true, number));
+        }
+        for (int way = 0; way < 25; way++) {
+            if (way / 5 != way % 5) {
+                x.cap(way / 5, way % 5, 0);
+            }
+        }
+        // 2 * 3 * 4 * 5 * 6 is 720.
+        c.is(15, x::leastAnew);
+        c.is(15, x::proof);
+        c.is(2000 * 5 - 5, () -> x.without(4, 4));
+    }
+
+    private static void theLastWay(Check c) {
+        Heapcarrier x = fiveAndFive();
+        x.own(4, 4, 1);
+        c.badState(x::order);
+        x.own(4, 4, NONE);
+        x.cap(4, 4, 5);
+        c.badState(x::order);
+        c.is(0, () -> x.toll(4, 4));
+        x.cap(4, 4, 4);
+        c.is(15 + 18, x::least);
+        c.is(4, () -> x.carried(4, 4));
+        c.is(1, () -> x.carried(3, 4));
+        c.is(1, () -> x.carried(4, 3));
+        c.is(18, () -> x.toll(4, 4));
+        c.is(33, x::proof);
+        x.carry(4, 4, 5);
+        c.is(3, x::whyNot);
+        c.badState(x::handCost);
+        c.is(7, x::take);
+        c.is(4, () -> x.carry(4, 4, 4));
+        x.carry(4, 4, 20);
+        c.is(1, x::whyNot);
+        x.carry(4, 4, 0);
+        x.carry(0, 4, 1);
+        x.carry(1, 4, 2);
+        x.carry(2, 4, 3);
+        x.carry(0, 0, 0);
+        x.carry(1, 1, 0);
+        x.carry(2, 2, 0);
+        c.is(2, x::whyNot);
     }
 
     private static void handStays(Check c) {

@@ -169,7 +169,39 @@ final class RandomRuns {
         }
     }
 
+    /** Amounts that fit all together are rare, so the last hole is altered to take up what is over. */
+    private void balance() {
+        int over = 0;
+        for (int heap = 0; heap < heaps; heap++) {
+            over += x.about(false, heap, 1);
+        }
+        for (int hole = 0; hole < holes - 1; hole++) {
+            over -= x.about(true, hole, 1);
+        }
+        if (holes > 0 && over >= 1 && over <= mostAmount) {
+            int last = holes - 1;
+            int amount = over;
+            int place = dice.from(0, mostPlace);
+            compare("alter", () -> x.alter(true, last, place, amount), () -> model.alter(true, last, place, amount));
+        }
+    }
+
+    private void freeWays() {
+        for (int way = 0; way < heaps * holes; way++) {
+            int heap = way / holes;
+            int hole = way % holes;
+            compare("own", () -> x.own(heap, hole, -1), () -> model.own(heap, hole, -1));
+            compare("cap", () -> x.cap(heap, hole, -1), () -> model.cap(heap, hole, -1));
+        }
+    }
+
     private void order() {
+        if (dice.oneIn(2)) {
+            balance();
+        }
+        if (dice.oneIn(4)) {
+            freeWays();
+        }
         compare("order", x::order, model::order);
         if (!Check.answer(x::order).startsWith("throws")) {
             compare("order beside the least of all carried", x::order, model::leastOfAllCarried);
