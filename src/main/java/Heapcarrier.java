@@ -88,21 +88,15 @@ public final class Heapcarrier {
     public int own(int heap, int hole, int cost) throws IndexOutOfBoundsException, IllegalArgumentException {
         checkWay(heap, hole);
         checkRange(cost, NONE, MOST_COST);
-        int way = wayOf(heap, hole);
-        int before = owns[way];
-        owns[way] = cost;
         isPlanned = false;
-        return before;
+        return tell(owns, wayOf(heap, hole), cost);
     }
 
     public int cap(int heap, int hole, int cap) throws IndexOutOfBoundsException, IllegalArgumentException {
         checkWay(heap, hole);
         checkRange(cap, NONE, MOST_AMOUNT);
-        int way = wayOf(heap, hole);
-        int before = caps[way];
-        caps[way] = cap;
         isPlanned = false;
-        return before;
+        return tell(caps, wayOf(heap, hole), cap);
     }
 
     public int terms(int lost, int missing) throws IllegalArgumentException {
@@ -209,10 +203,7 @@ public final class Heapcarrier {
     public int carry(int heap, int hole, int units) throws IndexOutOfBoundsException, IllegalArgumentException {
         checkWay(heap, hole);
         checkRange(units, 0, MOST_AMOUNT);
-        int way = wayOf(heap, hole);
-        int before = hand[way];
-        hand[way] = units;
-        return before;
+        return tell(hand, wayOf(heap, hole), units);
     }
 
     public int take() {
@@ -325,6 +316,12 @@ public final class Heapcarrier {
 
     private static int wayOf(int heap, int hole) {
         return heap * MOST + hole;
+    }
+
+    private static int tell(int[] row, int way, int number) {
+        int before = row[way];
+        row[way] = number;
+        return before;
     }
 
     private static int sum(int[] row) {

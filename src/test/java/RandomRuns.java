@@ -129,7 +129,8 @@ final class RandomRuns {
         if (amount > mostAmount && amount <= 20) {
             return;
         }
-        compare("alter", () -> x.alter(isHole, number, place, amount), () -> model.alter(isHole, number, place, amount));
+        compare("alter", () -> x.alter(isHole, number, place, amount),
+                () -> model.alter(isHole, number, place, amount));
     }
 
     private void ask() {
