@@ -7,6 +7,11 @@ public final class AllTests {
     public static void main(String[] args) {
         Map<String, Consumer<Check>> tests = new LinkedHashMap<>();
         PromiseTests.addTo(tests);
+        ArgumentEdges.addTo(tests);
+        CostEdges.addTo(tests);
+        PlanEdges.addTo(tests);
+        OrderAndHandEdges.addTo(tests);
+        CallEdges.addTo(tests);
         FaceTests.addTo(tests);
         RandomRuns.addTo(tests);
         LargePlans.addTo(tests);

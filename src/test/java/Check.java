@@ -48,7 +48,7 @@ final class Check {
 
     private static String where() {
         for (StackTraceElement line : new Throwable().getStackTrace()) {
-            if (!line.getClassName().equals("Check")) {
+            if (!line.getClassName().equals("Check") && !line.getClassName().equals("Edges")) {
                 return line.getFileName() + ":" + line.getLineNumber();
             }
         }
