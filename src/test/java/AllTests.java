@@ -12,6 +12,7 @@ public final class AllTests {
         PlanEdges.addTo(tests);
         OrderAndHandEdges.addTo(tests);
         CallEdges.addTo(tests);
+        ReadmeTests.addTo(tests);
         FaceTests.addTo(tests);
         RandomRuns.addTo(tests);
         LargePlans.addTo(tests);

@@ -1,5 +1,7 @@
+import java.util.LinkedHashMap;
 import java.util.Map;
 import java.util.function.Consumer;
+import java.util.function.ToIntFunction;
 
 /** What holds for calls of all kinds: questions change nothing, objects are apart, the last call counts too. */
 final class CallEdges {
@@ -9,6 +11,7 @@ final class CallEdges {
         tests.put("the length of the ring told last: 0 if none was", CallEdges::lastLength);
         tests.put("units that the least plan carries: 0 to 100", CallEdges::unitsCarried);
         tests.put("the 512th call is answered as the first", CallEdges::lastCall);
+        tests.put("of each kind of call, the 512th is answered as the one before", CallEdges::lastCallOfEachKind);
         tests.put("a refused call in between, over and over", CallEdges::refusedInBetween);
         tests.put("objects know nothing of one another", CallEdges::objectsAreApart);
     }
@@ -74,6 +77,60 @@ final class CallEdges {
         }
         // 4 calls made it, 507 carried; the last one is a question for which all must be known.
         c.is(44, x::proof);
+    }
+
+    private static Map<String, ToIntFunction<Heapcarrier>> telling() {
+        Map<String, ToIntFunction<Heapcarrier>> kinds = new LinkedHashMap<>();
+        kinds.put("heap, refused", x -> x.heap(101, 1));
+        kinds.put("hole, refused", x -> x.hole(1, 21));
+        kinds.put("alter", x -> x.alter(true, 1, 9, 8));
+        kinds.put("measure", x -> x.measure(Heapcarrier.RING, 31));
+        kinds.put("own", x -> x.own(2, 1, 11));
+        kinds.put("cap", x -> x.cap(2, 1, 12));
+        kinds.put("terms", x -> x.terms(13, 14));
+        kinds.put("carry", x -> x.carry(2, 1, 15));
+        kinds.put("take", Heapcarrier::take);
+        return kinds;
+    }
+
+    private static Map<String, ToIntFunction<Heapcarrier>> asking() {
+        Map<String, ToIntFunction<Heapcarrier>> kinds = new LinkedHashMap<>();
+        kinds.put("unit", x -> x.unit(1, 1));
+        kinds.put("least", Heapcarrier::least);
+        kinds.put("leastAnew", Heapcarrier::leastAnew);
+        kinds.put("carried", x -> x.carried(1, 1));
+        kinds.put("left", x -> x.left(false, 1));
+        kinds.put("without", x -> x.without(1, 0));
+        kinds.put("price", x -> x.price(true, 1));
+        kinds.put("toll", x -> x.toll(1, 0));
+        kinds.put("proof", Heapcarrier::proof);
+        kinds.put("order, refused", Heapcarrier::order);
+        kinds.put("whyNot", Heapcarrier::whyNot);
+        kinds.put("handCost", Heapcarrier::handCost);
+        kinds.put("middle", Heapcarrier::middle);
+        kinds.put("about", x -> x.about(true, 1, 2));
+        kinds.put("count", x -> x.count(6));
+        return kinds;
+    }
+
+    private static void lastCallOfEachKind(Check c) {
+        Map<String, ToIntFunction<Heapcarrier>> kinds = telling();
+        kinds.putAll(asking());
+        kinds.forEach((kind, call) -> {
+            // 11 calls make the object; what is told once more answers what was told just before.
+            Heapcarrier x = States.some();
+            String first = Check.answer(() -> call.applyAsInt(x));
+            String due = Check.answer(() -> call.applyAsInt(x));
+            c.holds(kind + " is a question, or tells something else", telling().containsKey(kind) || first.equals(due));
+            for (int n = 14; n <= 512; n++) {
+                c.same(kind + ", call " + n, Check.answer(() -> call.applyAsInt(x)), due);
+            }
+        });
+        // By order, 4 calls make the object.
+        Heapcarrier y = PromiseTests.of(PromiseTests.row(0, 3, 10, 4), PromiseTests.row(4, 5, 20, 2));
+        for (int n = 5; n <= 512; n++) {
+            c.is(44, y::order);
+        }
     }
 
     private static void refusedInBetween(Check c) {

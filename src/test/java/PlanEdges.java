@@ -10,9 +10,11 @@ final class PlanEdges {
         tests.put("plan: no heap gives more than it has", PlanEdges::heapsGiveWhatTheyHave);
         tests.put("plan: no hole gets more than it wants", PlanEdges::holesGetWhatTheyWant);
         tests.put("plan: as many units as there can be", PlanEdges::hundredUnits);
+        tests.put("plan: one unit can turn those of all other heaps", PlanEdges::oneTurnsAll);
         tests.put("ties: carried, if that costs just as much as to let it stay and lack", PlanEdges::justAsMuch);
         tests.put("ties: the most from heap 0 to hole 0", PlanEdges::firstWay);
         tests.put("ties: the last two ways", PlanEdges::lastWays);
+        tests.put("ties: heap 0 to hole 1 goes before heap 1 to hole 0", PlanEdges::heapBeforeHole);
         tests.put("ties: heap by heap, and hole by hole in each", PlanEdges::heapByHeap);
         tests.put("ties: the least cost goes before all of them", PlanEdges::costBeforeTies);
         tests.put("leastAnew: 20000 ways to tell are tried, more are not", PlanEdges::mostToTry);
@@ -27,6 +29,7 @@ final class PlanEdges {
         tests.put("toll: 0 where the prices are not above", PlanEdges::tollFromZero);
         tests.put("toll: 0 of a way without a cap", PlanEdges::tollWithoutCap);
         tests.put("toll: of a way that is refused", PlanEdges::tollOfRefused);
+        tests.put("toll: by the prices, not by what a greater cap would bring", PlanEdges::tollByPrices);
         tests.put("proof: is the least cost at every cap", PlanEdges::proofAtEveryCap);
         tests.put("proof: nothing there, or one side alone", PlanEdges::proofOfOneSide);
     }
@@ -111,6 +114,33 @@ final class PlanEdges {
         c.is(99 + 2000, x::least);
     }
 
+    /** The last heap has but the last hole, which is the cheapest of the heap before, and so on to the first ones. */
+    private static void oneTurnsAll(Check c) {
+        Heapcarrier x = of(row(0, 1, 0, 1, 0, 1, 0, 1, 0, 1), row(0, 1, 0, 1, 0, 1, 0, 1, 0, 1));
+        for (int way = 0; way < 25; way++) {
+            int heap = way / 5;
+            int hole = way % 5;
+            x.cap(heap, hole, hole == heap || hole == heap + 1 ? NONE : 0);
+            x.own(heap, hole, hole == heap ? 100 : NONE);
+        }
+        c.is(500, x::least);
+        c.is(500, x::leastAnew);
+        for (int k = 0; k < 5; k++) {
+            int number = k;
+            c.is(1, () -> x.carried(number, number));
+        }
+        c.is(1500, () -> x.without(4, 4));
+        c.is(1500, () -> x.without(0, 0));
+        x.cap(0, 0, 0);
+        c.is(2000, x::least);
+        for (int k = 0; k < 4; k++) {
+            int number = k;
+            c.is(1, () -> x.carried(number, number + 1));
+        }
+        c.is(1, () -> x.left(false, 4));
+        c.is(1, () -> x.left(true, 0));
+    }
+
     private static void justAsMuch(Check c) {
         Heapcarrier x = of(row(0, 3), row(100, 3));
         int[][] terms = {{50, 50}, {100, 0}, {0, 100}, {50, 51}, {51, 50}};
@@ -165,6 +195,25 @@ final class PlanEdges {
         x.own(3, 4, 1);
         c.is(1, () -> x.carried(3, 4));
         c.is(0, () -> x.carried(4, 4));
+    }
+
+    /** Heap 2 fills the hole that the one of the first two heaps leaves, so these two ways stand against each other. */
+    private static void heapBeforeHole(Check c) {
+        Heapcarrier x = of(row(0, 1, 0, 1, 0, 1), row(0, 1, 0, 1));
+        x.cap(0, 0, 0);
+        x.cap(1, 1, 0);
+        x.own(0, 1, 1);
+        x.own(1, 0, 1);
+        c.is(1001, x::least);
+        c.is(1, () -> x.carried(0, 1));
+        c.is(0, () -> x.carried(1, 0));
+        c.is(1, () -> x.carried(2, 0));
+        c.is(0, () -> x.carried(2, 1));
+        x.own(0, 1, 2);
+        c.is(0, () -> x.carried(0, 1));
+        c.is(1, () -> x.carried(1, 0));
+        c.is(0, () -> x.carried(2, 0));
+        c.is(1, () -> x.carried(2, 1));
     }
 
     private static void heapByHeap(Check c) {
@@ -404,6 +453,26 @@ final class PlanEdges {
         x.terms(0, 0);
         c.is(0, () -> x.toll(0, 0));
         c.is(0, x::proof);
+    }
+
+    private static void tollByPrices(Check c) {
+        // The heap has no unit for a greater cap, yet one more would stay there, and one fewer lack.
+        Heapcarrier x = of(row(0, 1), row(6, 2));
+        x.cap(0, 0, 1);
+        c.is(1000, () -> x.price(false, 0));
+        c.is(1000, () -> x.price(true, 0));
+        c.is(1994, () -> x.toll(0, 0));
+        c.is(1006, x::least);
+        c.is(1006, x::proof);
+        x.cap(0, 0, 2);
+        c.is(1006, x::least);
+        c.is(6 - 1000, () -> x.price(false, 0));
+        c.is(0, () -> x.toll(0, 0));
+        // An own cost is what the unit costs.
+        x.cap(0, 0, 1);
+        x.own(0, 0, 90);
+        c.is(1910, () -> x.toll(0, 0));
+        c.is(1090, x::proof);
     }
 
     private static void proofAtEveryCap(Check c) {
