@@ -554,12 +554,14 @@ public final class Heapcarrier {
         final int[] carriedUnits;
         final int[] room;
         int cost;
+        private final int[] opened;
         private final int[] unitCosts;
         private final long[] ranks;
         private final long[] heapPaths;
         private final long[] holePaths;
         private final int[] heapsFrom;
         private final int[] holesFrom;
+        private int openedWays;
         private int lost;
         private int missing;
 
@@ -569,12 +571,14 @@ public final class Heapcarrier {
             carriedUnits = new int[WAYS];
             room = new int[WAYS];
             cost = 0;
+            opened = new int[WAYS];
             unitCosts = new int[WAYS];
             ranks = new long[WAYS];
             heapPaths = new long[MOST];
             holePaths = new long[MOST];
             heapsFrom = new int[MOST];
             holesFrom = new int[MOST];
+            openedWays = 0;
             lost = 0;
             missing = 0;
         }
@@ -585,6 +589,7 @@ public final class Heapcarrier {
             Arrays.fill(carriedUnits, 0);
             Arrays.fill(room, 0);
             cost = 0;
+            openedWays = 0;
             lost = lostPrice;
             missing = missingPrice;
         }
@@ -605,6 +610,10 @@ public final class Heapcarrier {
          * by ranks, the least plan has no equal.
          */
         void open(int way, int unitCost, int cap) {
+            if (cap != 0 && openedWays < WAYS) {
+                opened[openedWays] = way;
+                openedWays++;
+            }
             room[way] = cap == NONE ? UNBOUNDED : cap;
             unitCosts[way] = unitCost;
             ranks[way] = ((long) unitCost << WAYS) - (1L << (WAYS - 1 - way));
@@ -622,7 +631,8 @@ public final class Heapcarrier {
 
         /** Less on a way never breaks a plan, so counting up, last way first, passes every plan once. */
         boolean turnToNext() {
-            for (int way = WAYS - 1; way >= 0; way--) {
+            for (int k = openedWays - 1; k >= 0; k--) {
+                int way = opened[k];
                 int heap = way / MOST;
                 int hole = way % MOST;
                 if (room[way] > 0 && stays[heap] > 0 && lacks[hole] > 0) {
@@ -658,7 +668,8 @@ public final class Heapcarrier {
         }
 
         private void reachHoles() {
-            for (int way = 0; way < WAYS; way++) {
+            for (int k = 0; k < openedWays; k++) {
+                int way = opened[k];
                 int heap = way / MOST;
                 int hole = way % MOST;
                 if (room[way] > 0 && heapPaths[heap] < UNREACHED
@@ -672,7 +683,8 @@ public final class Heapcarrier {
         /** A heap whose unit is turned back from a hole has that unit to carry elsewhere. */
         private boolean reachHeaps() {
             boolean isNew = false;
-            for (int way = 0; way < WAYS; way++) {
+            for (int k = 0; k < openedWays; k++) {
+                int way = opened[k];
                 int heap = way / MOST;
                 int hole = way % MOST;
                 if (carriedUnits[way] > 0 && holePaths[hole] < UNREACHED
